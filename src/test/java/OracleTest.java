@@ -1,0 +1,144 @@
+/** Runs many shelves beside the oracle: all their answers must be the same. */
+public final class OracleTest {
+    private static final Check CHECK = new Check();
+
+    private static DimShelf shelf;
+    private static Oracle oracle;
+    private static String told = "";
+
+    public static void main(String[] args) {
+        long rounds = args.length > 0 ? Long.parseLong(args[0]) : 500;
+        long from = args.length > 1 ? Long.parseLong(args[1]) : 1;
+        for (long seed = from; seed < from + rounds && CHECK.wrong() == 0; seed++) {
+            run(new Maker(seed));
+            faults(new Maker(-seed));
+        }
+        CHECK.finish("OracleTest");
+    }
+
+    private static void due(String what, long got, long want) {
+        CHECK.due(what + " behind " + told, got, want);
+    }
+
+    private static void put(String text) {
+        String cut = text.length() > 3980 ? text.substring(0, 3980) : text;
+        Check.put(shelf, cut);
+        oracle.put(cut);
+        told = cut;
+    }
+
+    private static void run(Maker maker) {
+        shelf = new DimShelf();
+        oracle = new Oracle();
+        int texts = 1 + maker.below(2);
+        for (int i = 0; i < texts; i++) {
+            put(maker.text(6 + maker.below(24), maker.below(8) == 0 ? 10 : 0, maker.below(20) == 0 ? 1024 : 40));
+            due("read", shelf.read(), oracle.read());
+            compare(maker);
+            int calls = maker.below(14);
+            for (int c = 0; c < calls; c++) {
+                call(maker);
+            }
+        }
+    }
+
+    private static void call(Maker maker) {
+        switch (maker.below(5)) {
+            case 0, 1 -> {
+                put(maker.cond(2));
+                due("learn", shelf.learn(), oracle.learn());
+                compare(maker);
+            }
+            case 2 -> {
+                due("undo", shelf.undo() ? 1 : 0, oracle.undo() ? 1 : 0);
+                compare(maker);
+            }
+            default -> {
+                put(maker.below(5) == 0 ? maker.broken(maker.cond(1)) : maker.cond(1));
+                due("ask", shelf.ask(), oracle.ask());
+            }
+        }
+        states();
+    }
+
+    private static void states() {
+        due("place", shelf.place(), oracle.place());
+        for (int what = -1; what <= 7; what++) {
+            due("count " + what, shelf.count(what), oracle.count(what));
+        }
+        for (int i = -1; i < 5; i++) {
+            due("why " + i, shelf.why(i), oracle.why(i));
+        }
+    }
+
+    private static void compare(Maker maker) {
+        states();
+        int tables = oracle.count(3);
+        for (int t = -1; t <= tables; t++) {
+            boolean full = oracle.count(0) < 12 || maker.below(4) == 0 && oracle.count(0) < 100;
+            for (int what = -1; what <= 7; what++) {
+                due("table " + t + " " + what, shelf.table(t, what), oracle.table(t, what));
+            }
+            rows(t);
+            if (full) {
+                listed(t);
+                worlds(t, maker);
+            }
+            for (int s = -1; s <= tables; s++) {
+                due("same " + t + " " + s, shelf.same(t, s), oracle.same(t, s));
+            }
+        }
+        for (int i = 0; i < 10; i++) {
+            int k = maker.below(oracle.count(0) + 2) - 1;
+            int u = maker.below(oracle.count(2) + 2) - 1;
+            due("value " + k + " " + u, shelf.value(k, u), oracle.value(k, u));
+        }
+    }
+
+    private static void rows(int t) {
+        for (int r = -1; r <= Math.max(0, oracle.table(t, 0)); r++) {
+            due("many " + t + " " + r, shelf.many(t, r), oracle.many(t, r));
+            for (int c = -1; c <= Math.max(0, oracle.table(t, 1)); c++) {
+                for (int what = -1; what <= 2; what++) {
+                    due("term " + t + " " + r + " " + c + " " + what, shelf.term(t, r, c, what),
+                        oracle.term(t, r, c, what));
+                }
+            }
+        }
+    }
+
+    private static void listed(int t) {
+        for (int i = -1; i <= Math.min(25, Math.max(0, oracle.table(t, 6))); i++) {
+            due("often " + t + " " + i, shelf.often(t, i), oracle.often(t, i));
+            for (int c = -1; c <= Math.max(0, oracle.table(t, 1)); c++) {
+                due("sure " + t + " " + i + " " + c, shelf.sure(t, i, c), oracle.sure(t, i, c));
+                due("maybe " + t + " " + i + " " + c, shelf.maybe(t, i, c), oracle.maybe(t, i, c));
+            }
+        }
+    }
+
+    private static void worlds(int t, Maker maker) {
+        for (int n = 0; n < 8; n++) {
+            int k = maker.below(oracle.count(0) + 2) - 1;
+            due("size " + t + " " + k, shelf.size(t, k), oracle.size(t, k));
+            for (int i = -1; i <= Math.max(0, oracle.size(t, k)); i++) {
+                due("holds " + t + " " + i + " " + k, shelf.holds(t, i, k) ? 1 : 0, oracle.holds(t, i, k) ? 1 : 0);
+                for (int c = -1; c <= Math.max(0, oracle.table(t, 1)); c++) {
+                    due("cell " + t + " " + k + " " + i + " " + c, shelf.cell(t, k, i, c), oracle.cell(t, k, i, c));
+                }
+            }
+        }
+    }
+
+    /** Texts that are mostly broken: the number and the place of the fault. */
+    private static void faults(Maker maker) {
+        shelf = new DimShelf();
+        oracle = new Oracle();
+        for (int i = 0; i < 60; i++) {
+            String text = maker.text(4 + maker.below(14), 15 * maker.below(4), 40);
+            put(i % 3 == 0 ? text : i % 10 == 1 ? maker.noise(1 + maker.below(12)) : maker.broken(text));
+            due("read", shelf.read(), oracle.read());
+            due("place", shelf.place(), oracle.place());
+        }
+    }
+}
