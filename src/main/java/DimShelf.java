@@ -85,7 +85,8 @@ public final class DimShelf {
     }
 
     public int learn() {
-        if (!condition()) {
+        understand(Grammar.COND, shelf);
+        if (!judged()) {
             return NONE;
         }
         if (shelf.heldWith(worker) == 0) {
@@ -111,7 +112,8 @@ public final class DimShelf {
     }
 
     public int ask() {
-        if (!condition()) {
+        understand(Grammar.COND, shelf);
+        if (!judged()) {
             return NONE;
         }
         shelf.keepAsked(worker);
@@ -292,9 +294,8 @@ public final class DimShelf {
         }
     }
 
-    /** Takes the tape for a COND; the worker knows then in which worlds it holds. */
-    private boolean condition() {
-        understand(Grammar.COND, shelf);
+    /** If the tape was a COND without a fault, the worker knows then in which worlds it holds. */
+    private boolean judged() {
         faultPlace = plan.fault == Plan.NO_FAULT ? NONE : plan.place;
         if (plan.fault != Plan.NO_FAULT) {
             return false;
@@ -358,7 +359,10 @@ public final class DimShelf {
 
         /** The value of the INT whose first token this is. */
         int intAt(int token) {
-            return kindAt(token) == '-' ? (int) -wordAt(token + 1) : (int) wordAt(token);
+            if (token < 0 || token + 1 >= kinds.length || token + 1 >= words.length) {
+                return 0;
+            }
+            return kinds[token] == '-' ? (int) -words[token + 1] : (int) words[token];
         }
 
         void scan(char[] text, int end) {
@@ -1364,8 +1368,14 @@ public final class DimShelf {
         }
 
         private void addColumn(int level, long name) {
-            setColumn(level, widthAt(level), name);
-            setWidth(level, widthAt(level) + 1);
+            if (level < 0 || level >= widths.length || widths[level] >= Shelf.MOST_COLUMNS) {
+                return;
+            }
+            int at = level * Shelf.MOST_COLUMNS + widths[level];
+            if (at < columns.length) {
+                columns[at] = name;
+                widths[level]++;
+            }
         }
 
         private int columnNamed(int level, long name) {

@@ -57,7 +57,7 @@ final class Maker {
             } else if (kind < 13 && !tables.isEmpty()) {
                 row(text);
             } else if (kind < 15 && i > 5) {
-                text.append("always ").append(cond(2)).append(';');
+                text.append("always ").append(below(4) == 0 ? cond(2) : clause(2 + below(2))).append(';');
             } else if (tables.size() < 10 && !tables.isEmpty()) {
                 answer(text);
             }
@@ -98,6 +98,10 @@ final class Maker {
         text.append("table ").append(name).append('(').append(String.join(",", own)).append(");");
         tables.add(name);
         columns.add(own);
+        int rows = below(5);
+        for (int i = 0; i < rows; i++) {
+            row(text, tables.size() - 1);
+        }
     }
 
     private void row(StringBuilder text) {
@@ -105,6 +109,10 @@ final class Maker {
         for (int i = 0; i < 5 && isAnswer(t) && wrongness < below(1000); i++) {
             t = below(tables.size());
         }
+        row(text, t);
+    }
+
+    private void row(StringBuilder text, int t) {
         int width = below(1000) < wrongness ? 1 + below(5) : columns.get(t).size();
         if (isAnswer(t) && below(1000) >= wrongness) {
             return;
@@ -128,6 +136,10 @@ final class Maker {
         return below(3) > 0 ? "?" + one(unknowns) : number();
     }
 
+    private String testSide() {
+        return below(3) == 0 ? "?" + one(unknowns) : "" + below(3);
+    }
+
     String cond(int depth) {
         StringBuilder text = new StringBuilder();
         int parts = 1 + below(depth > 0 ? 3 : 1);
@@ -142,6 +154,32 @@ final class Maker {
                 text.append(kind == 2 ? "!" : kind == 3 ? "!!" : "");
                 text.append(side()).append(one("=", "!=", "<", "<=", " = ", "=")).append(side());
             }
+        }
+        return text.toString();
+    }
+
+    /** A COND that holds in most WORLDS. */
+    String clause(int parts) {
+        StringBuilder text = new StringBuilder();
+        for (int i = 0; i < parts; i++) {
+            text.append(i == 0 ? "" : "|").append('?').append(one(unknowns)).append(one("!=", "!=", "<=", "=", "<"));
+            text.append(below(2) == 0 ? "" + below(3) : "?" + one(unknowns));
+        }
+        return text.toString();
+    }
+
+    /** A text of UNKNOWNS and PARTS alone. */
+    String riddle(int parts) {
+        wrongness = 0;
+        unknowns.clear();
+        StringBuilder text = new StringBuilder();
+        int many = 4 + below(3);
+        for (int u = 0; u < many; u++) {
+            text.append("unknown u").append(u).append(":0..").append(many < 6 ? 2 : 1).append(';');
+            unknowns.add("u" + u);
+        }
+        for (int i = 0; i < parts; i++) {
+            text.append("always ").append(clause(2 + below(2))).append(';');
         }
         return text.toString();
     }
@@ -176,15 +214,16 @@ final class Maker {
         text.append(":(").append(String.join(",", picks)).append(')');
         own.clear();
         own.addAll(picks);
+        String left = text.toString();
         int more = 1 + below(2);
         for (int i = 0; i < more; i++) {
-            text.append(one("+", "-", "-")).append(like(own));
+            text.append(one("+", "-", "-")).append(like(own, left));
         }
         return text.toString();
     }
 
-    /** A Q with these COLUMNS, of a TABLE that has them all. */
-    private String like(List<String> own) {
+    /** A Q with these COLUMNS, of a TABLE that has them all, or of what is on the left. */
+    private String like(List<String> own, String left) {
         for (int i = 0; i < 20; i++) {
             int t = below(tables.size());
             if (columns.get(t).containsAll(own) || below(1000) < wrongness) {
@@ -192,7 +231,7 @@ final class Maker {
                     + (columns.get(t).equals(own) ? "" : ":(" + String.join(",", own) + ")");
             }
         }
-        return below(1000) < 900 ? tables.get(0) + "#()count " + (own.isEmpty() ? "a" : own.get(0)) : tables.get(0);
+        return below(1000) < wrongness ? tables.get(0) : "(" + left + ")[" + tests(own) + "]";
     }
 
     private List<String> some(List<String> own) {
@@ -215,8 +254,8 @@ final class Maker {
         StringBuilder text = new StringBuilder();
         int tests = 1 + below(2);
         for (int i = 0; i < tests; i++) {
-            text.append(i == 0 ? "" : ",").append(below(4) > 0 ? one(own) : side());
-            text.append(one("=", "!=", "<", "<=")).append(below(3) == 0 ? one(own) : side());
+            text.append(i == 0 ? "" : ",").append(below(5) > 0 ? one(own) : testSide());
+            text.append(one("=", "!=", "<=", "<=", "<")).append(below(3) == 0 ? one(own) : testSide());
         }
         return text.toString();
     }

@@ -12,6 +12,7 @@ public final class OracleTest {
         for (long seed = from; seed < from + rounds && CHECK.wrong() == 0; seed++) {
             run(new Maker(seed));
             faults(new Maker(-seed));
+            riddles(new Maker(seed * 7919));
         }
         CHECK.finish("OracleTest");
     }
@@ -127,6 +128,26 @@ public final class OracleTest {
                     due("cell " + t + " " + k + " " + i + " " + c, shelf.cell(t, k, i, c), oracle.cell(t, k, i, c));
                 }
             }
+        }
+    }
+
+    /** Many PARTS, so that it takes some of them together for WHY something cannot be. */
+    private static void riddles(Maker maker) {
+        shelf = new DimShelf();
+        oracle = new Oracle();
+        put(maker.riddle(maker.below(6)));
+        due("read", shelf.read(), oracle.read());
+        for (int c = 0; c < 24; c++) {
+            if (maker.below(2) == 0) {
+                put(maker.clause(1 + maker.below(3)));
+                due("learn", shelf.learn(), oracle.learn());
+            } else if (maker.below(8) == 0) {
+                due("undo", shelf.undo() ? 1 : 0, oracle.undo() ? 1 : 0);
+            } else {
+                put("(" + maker.clause(1) + ")&(" + maker.clause(1 + maker.below(2)) + ")&!(" + maker.clause(2) + ")");
+                due("ask", shelf.ask(), oracle.ask());
+            }
+            states();
         }
     }
 
