@@ -1565,9 +1565,11 @@ public final class DimShelf {
                 broken[w] = 0;
                 int rest = w;
                 for (int u = unknowns - 1; u >= 0; u--) {
-                    int size = Math.max(1, sizeOf(u));
-                    setCell(w, u, u * MOST_VALUES + rest % size);
-                    rest /= size;
+                    int size = sizeOf(u);
+                    if (size > 0) {
+                        setCell(w, u, u * MOST_VALUES + rest % size);
+                        rest /= size;
+                    }
                 }
             }
             hold();
@@ -1813,15 +1815,15 @@ public final class DimShelf {
             return added;
         }
 
-        /** Changes the places of two ROWS. */
-        void change(int row, int other) {
+        /** Changes the places of two ROWS, in the first so many WORLDS. */
+        void change(int row, int other, int worlds) {
             for (int c = 0; c < width; c++) {
                 int number = termAt(row, c);
                 boolean unknown = isOpen(row, c);
                 setTerm(row, c, isOpen(other, c), termAt(other, c));
                 setTerm(other, c, unknown, number);
             }
-            for (int w = 0; w < there.length; w++) {
+            for (int w = 0; w < worlds && w < there.length; w++) {
                 int differ = (there[w] >> row ^ there[w] >> other) & 1;
                 there[w] ^= differ << row | differ << other;
             }
@@ -2320,7 +2322,7 @@ public final class DimShelf {
                     }
                 }
                 if (first != row) {
-                    to.change(row, first);
+                    to.change(row, first, shelf.all);
                 }
             }
         }

@@ -15,6 +15,7 @@ public final class AnswerTest {
         places();
         order();
         parts();
+        depths();
         CHECK.finish("AnswerTest");
     }
 
@@ -179,5 +180,20 @@ public final class AnswerTest {
         due("the first", rows(x, 0, 0), "1");
         due("the second", rows(x, 0, 1), "1 3");
         due("the third", rows(x, 0, 2), "4");
+    }
+
+    /** As much of a Q and of a COND is open as can be. */
+    private static void depths() {
+        String q = "t+t*t";
+        String cond = "?u=1|1=1&?u=2";
+        for (int i = 0; i < 8; i++) {
+            q = "t+t*(" + q + ")";
+            cond = "2=1|1=1&(" + cond + ")";
+        }
+        DimShelf x = CHECK.shelf("unknown u:1..3;table t(a);row t(?u) if " + cond + ";answer x=" + q + ";");
+        due("a Q", terms(x, 1), "?0/2" + " ?0/2".repeat(9));
+        CHECK.due("a COND", Check.ask(x, cond), 2);
+        CHECK.due("a COND of brackets and !", Check.ask(x, "!(!(!(!?u=3)))"), 1);
+        CHECK.due("one ! more", Check.ask(x, "!(!(!(!!?u=3)))"), 2);
     }
 }

@@ -13,6 +13,7 @@ public final class OracleTest {
             run(new Maker(seed));
             faults(new Maker(-seed));
             riddles(new Maker(seed * 7919));
+            wild(new Maker(seed * 104729));
         }
         CHECK.finish("OracleTest");
     }
@@ -160,6 +161,74 @@ public final class OracleTest {
             put(i % 3 == 0 ? text : i % 10 == 1 ? maker.noise(1 + maker.below(12)) : maker.broken(text));
             due("read", shelf.read(), oracle.read());
             due("place", shelf.place(), oracle.place());
+        }
+    }
+
+    private static final int[] WILD = {Integer.MIN_VALUE, Integer.MIN_VALUE + 1, -100000, -33, -32, -1, 0, 1, 2, 3, 4, 5,
+        6, 7, 8, 29, 30, 31, 32, 33, 63, 64, 1023, 1024, 1025, 4000, 1 << 26, 1 << 30, Integer.MAX_VALUE};
+
+    private static int any(Maker maker) {
+        return maker.below(2) == 0 ? maker.below(4) : WILD[maker.below(WILD.length)];
+    }
+
+    /** Calls with any arguments, in any order. */
+    private static void wild(Maker maker) {
+        shelf = new DimShelf();
+        oracle = new Oracle();
+        for (int call = 0; call < 300; call++) {
+            int a = any(maker);
+            int b = any(maker);
+            int c = any(maker);
+            int d = any(maker);
+            switch (maker.below(24)) {
+                case 0 -> feed(maker);
+                case 1 -> due("back " + a, shelf.back(a), oracle.back(a));
+                case 2 -> due("read", shelf.read(), oracle.read());
+                case 3 -> due("learn", shelf.learn(), oracle.learn());
+                case 4 -> due("ask", shelf.ask(), oracle.ask());
+                case 5 -> due("undo", shelf.undo() ? 1 : 0, oracle.undo() ? 1 : 0);
+                case 6 -> due("why " + a, shelf.why(a), oracle.why(a));
+                case 7 -> due("value " + a + " " + b, shelf.value(a, b), oracle.value(a, b));
+                case 8 -> due("table " + a + " " + b, shelf.table(a, b), oracle.table(a, b));
+                case 9 -> due("term " + a + " " + b + " " + c + " " + d, shelf.term(a, b, c, d), oracle.term(a, b, c, d));
+                case 10 -> due("many " + a + " " + b, shelf.many(a, b), oracle.many(a, b));
+                case 11 -> due("holds " + a + " " + b + " " + c, shelf.holds(a, b, c) ? 1 : 0,
+                    oracle.holds(a, b, c) ? 1 : 0);
+                case 12 -> due("size " + a + " " + b, shelf.size(a, b), oracle.size(a, b));
+                case 13 -> due("cell " + a + " " + b + " " + c + " " + d, shelf.cell(a, b, c, d), oracle.cell(a, b, c, d));
+                case 14 -> due("sure " + a + " " + b + " " + c, shelf.sure(a, b, c), oracle.sure(a, b, c));
+                case 15 -> due("maybe " + a + " " + b + " " + c, shelf.maybe(a, b, c), oracle.maybe(a, b, c));
+                case 16 -> due("often " + a + " " + b, shelf.often(a, b), oracle.often(a, b));
+                case 17 -> due("same " + a + " " + b, shelf.same(a, b), oracle.same(a, b));
+                case 18 -> due("count " + a, shelf.count(a), oracle.count(a));
+                case 19 -> due("place", shelf.place(), oracle.place());
+                default -> wildText(maker);
+            }
+        }
+    }
+
+    private static void feed(Maker maker) {
+        int[] words = new int[5];
+        StringBuilder twenty = new StringBuilder();
+        for (int i = 0; i < 5; i++) {
+            words[i] = any(maker) * (1 + maker.below(99));
+            for (int shift = 24; shift >= 0; shift -= 8) {
+                twenty.append((char) (words[i] >>> shift & 255));
+            }
+        }
+        due("feed", shelf.feed(words[0], words[1], words[2], words[3], words[4]), oracle.feed(twenty.toString()));
+    }
+
+    private static void wildText(Maker maker) {
+        shelf.back(shelf.count(6));
+        oracle.back(oracle.count(6));
+        switch (maker.below(4)) {
+            case 0 -> put(maker.noise(1 + maker.below(30)));
+            case 1 -> put(maker.cond(1));
+            default -> {
+                put(maker.text(4 + maker.below(14), 0, 30));
+                due("read", shelf.read(), oracle.read());
+            }
         }
     }
 }
