@@ -7,7 +7,7 @@ public final class OracleTest {
     private static String told = "";
 
     public static void main(String[] args) {
-        long rounds = args.length > 0 ? Long.parseLong(args[0]) : 500;
+        long rounds = args.length > 0 ? Long.parseLong(args[0]) : 300;
         long from = args.length > 1 ? Long.parseLong(args[1]) : 1;
         for (long seed = from; seed < from + rounds && CHECK.wrong() == 0; seed++) {
             run(new Maker(seed));
@@ -32,8 +32,12 @@ public final class OracleTest {
     private static void run(Maker maker) {
         shelf = new DimShelf();
         oracle = new Oracle();
-        int texts = 1 + maker.below(2);
+        int texts = 1 + maker.below(4);
         for (int i = 0; i < texts; i++) {
+            if (i > 0 && maker.below(3) == 0) {
+                put(maker.broken(maker.text(6 + maker.below(24), 0, 40)));
+                due("read", shelf.read(), oracle.read());
+            }
             put(maker.text(6 + maker.below(24), maker.below(8) == 0 ? 10 : 0, maker.below(20) == 0 ? 1024 : 40));
             due("read", shelf.read(), oracle.read());
             compare(maker);

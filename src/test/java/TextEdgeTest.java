@@ -356,6 +356,9 @@ public final class TextEdgeTest {
         text(TWICE, told + ":(c,b,a,^b);");
         text(TWICE, told + "#(a,^a)count n;");
         text(TWICE, told + "#(c,b,^c)sum a n;");
+        text(TWICE, told + "#(a,^a,z)count n;");
+        text(NAME, told + "#(^z,a,a)count n;");
+        text(NAME, told + ":(^z,a,a);");
         good(told + ":(c,b,a);");
         good(told + "#(c,b,a)sum a n;");
         text(TWICE, told + "{^a=a};");

@@ -18,7 +18,9 @@ public final class WorldEdgeTest {
         widest();
         tests();
         joins();
+        joinsOfMany();
         differences();
+        differencesOfMany();
         groups();
         groupsOfWorlds();
         fullTables();
@@ -32,6 +34,10 @@ public final class WorldEdgeTest {
         whyOfMany();
         readForgets();
         tape();
+        bytesThatWent();
+        readAgain();
+        readLess();
+        readBehindFaults();
         lastCalls();
         CHECK.finish("WorldEdgeTest");
     }
@@ -508,8 +514,25 @@ public final class WorldEdgeTest {
         due("nor its WORLDS", x.often(0, 30720), -1);
         due("no SURE row", x.sure(0, 0, 0), NO);
         due("learn", Check.learn(x, "?u=?v"), 32);
-        due("MAYBE rows then", x.table(0, 6), 960);
-        due("the last", x.maybe(0, 959, 2), 31);
+        fewerListed(x, 32, 1);
+        for (int left : new int[] {31, 5, 3}) {
+            due("learn", Check.learn(x, "?u<" + left), left);
+            fewerListed(x, left, 1);
+        }
+        due("learn", Check.learn(x, "?u!=1"), 2);
+        fewerListed(x, 2, 2);
+    }
+
+    /** The WORLDS left have 30 rows each: all of one UNKNOWN's value, which goes up by the step. */
+    private static void fewerListed(DimShelf x, int left, int step) {
+        due("MAYBE rows of " + left, x.table(0, 6), left * 30);
+        for (int i = 7; i < left * 30; i += left > 5 ? 97 : 11) {
+            due("MAYBE row " + i + " of " + left, x.maybe(0, i, 0), i / 30 * step);
+            due("its second COLUMN", x.maybe(0, i, 1), i % 30);
+            due("its third COLUMN", x.maybe(0, i, 2), i / 30 * step);
+            due("its WORLDS", x.often(0, i), 1);
+        }
+        due("no row more", x.maybe(0, left * 30, 0), NO);
     }
 
     /** One WORLD that holds: all of its rows are SURE. */
@@ -590,9 +613,10 @@ public final class WorldEdgeTest {
     /** "Else it is the shelf: nothing is learned, nothing was asked." */
     private static void readForgets() {
         DimShelf x = CHECK.shelf("unknown u:1..3;always ?u<3;table t(a);row t(?u);");
-        for (String text : new String[] {"", "unknown u:1..3;always ?u<3;table t(a);row t(?u);", "unknown w:1;"}) {
-            Check.learn(x, "1=1");
-            due("ask", Check.ask(x, "1=2"), 0);
+        for (String text : new String[] {"", "unknown u:1..3;always ?u<3;table t(a);row t(?u);", "always 2=2;unknown w:1;"}) {
+            due("learn", Check.learn(x, "1=1"), x.count(0));
+            due("ask", Check.ask(x, x.count(2) > 0 ? "?u=3" : "1=1"), x.count(2) > 0 ? 0 : 1);
+            due("why", x.why(0), x.count(2) > 0 ? 0 : -1);
             due("read", Check.read(x, text), 0);
             due("nothing is learned", x.count(5), 0);
             due("nothing is to be undone", x.undo(), false);
@@ -612,7 +636,7 @@ public final class WorldEdgeTest {
         Check.put(x, "2|?u=3");
         due("bytes", x.count(6), 9);
         due("learn", x.learn(), 2);
-        due("none is left", x.count(6), 0);
+        due("what is left of it", x.count(6), 0);
         due("learn of none", x.learn(), -1);
         due("at its end", x.place(), 0);
         Check.put(x, "?u=3");
@@ -640,6 +664,163 @@ public final class WorldEdgeTest {
             due("MAYBE", x.table(0, 6), 1024);
             due("MAYBE of the other", x.table(1, 6), 1024);
             due("same", x.same(0, 1), 1);
+        }
+    }
+
+    /** A tape of the text without its last byte. */
+    private static DimShelf shortened(String told, String text) {
+        DimShelf x = CHECK.shelf(told);
+        Check.put(x, text);
+        due("back", x.back(1), text.length() - 1);
+        return x;
+    }
+
+    /** "The last n bytes of the tape go": no TOKEN goes on with them. */
+    private static void bytesThatWent() {
+        due("a NUMBER", shortened("unknown u:1,12;", "?u=12").ask(), 1);
+        due("a NUMBER that is learned", shortened("unknown u:1,2,12;always ?u!=2;", "?u<=12").learn(), 1);
+        String[] texts = {"unknown abcdefghi", "unknown u:12345", "unknown u:1..", "always !=", "always 1<=", "unknown u:1;$"};
+        int[] places = {16, 14, 11, 8, 9, -1};
+        for (int i = 0; i < texts.length; i++) {
+            DimShelf x = shortened("", texts[i]);
+            due("read of " + texts[i] + " without its last byte", x.read(), places[i] < 0 ? 0 : 1);
+            due("place in " + texts[i] + " without its last byte", x.place(), places[i]);
+        }
+    }
+
+    /** A text of 8 UNKNOWNS, 10 TABLES, 30 rows, 40 signs, 12 PARTS and a list of 16. */
+    private static String full() {
+        StringBuilder text = new StringBuilder("unknown u0:0,1,2,3,4,5,6,7,8,9,10,11,12,13,14,15;table t(a,b,c,d);");
+        for (int i = 1; i < 8; i++) {
+            text.append("unknown u").append(i).append(":1;");
+        }
+        for (int i = 0; i < 30; i++) {
+            text.append("row t(?u0,").append(i).append(",1,1) if ?u0!=").append(i).append(';');
+        }
+        for (int i = 0; i < 8; i++) {
+            text.append("answer x").append(i).append("=t-t-t-t-t;");
+        }
+        return text + "answer x8=(t-t-t-t-t-t-t-t)#()count b;" + "always ?u0=?u0;".repeat(12);
+    }
+
+    private static void dueOfFull(DimShelf x) {
+        int[] counts = {16, 16, 8, 10, 12, 0, 0};
+        for (int what = 0; what < counts.length; what++) {
+            due("count " + what + " of a full text", x.count(what), counts[what]);
+        }
+        int[] told = {30, 4, 0, 29, 29, 0, 464};
+        int[] answer = {30, 4, 1, 0, 0, 0, 0};
+        for (int what = 0; what < told.length; what++) {
+            due("the TABLE of a full text, " + what, x.table(0, what), told[what]);
+            due("an answer of a full text, " + what, x.table(8, what), answer[what]);
+            due("the last answer of a full text, " + what, x.table(9, what), what == 1 || what == 2 ? 1 : 0);
+        }
+    }
+
+    /** What a text may have is counted anew for each text. */
+    private static void readAgain() {
+        for (int times = 1; times <= 4; times++) {
+            DimShelf x = new DimShelf();
+            for (int i = 0; i < times; i++) {
+                due("read of a full text", Check.read(x, full()), 0);
+            }
+            dueOfFull(x);
+            due("read of one TABLE more", Check.read(x, full() + "table z(a);"), 2);
+            due("its place", x.place(), full().length() + 6);
+            dueOfFull(x);
+        }
+    }
+
+    private static final String LESS = "unknown u:5..6;table t(a,b);row t(?u,1) if 1=2;row t(1,1) if ?u=5;table s(c);"
+        + "answer x=t+t;answer y=t*t+t-t;answer z=t#(a)count n;answer w=s#()count n;";
+
+    /** Nothing of a text is left in the next ones. */
+    private static void readLess() {
+        DimShelf fresh = CHECK.shelf(LESS);
+        for (int times = 1; times <= 2; times++) {
+            DimShelf x = new DimShelf();
+            for (int i = 0; i < times; i++) {
+                due("read of a full text", Check.read(x, full()), 0);
+                due("ask", Check.ask(x, "?u0=16"), 0);
+            }
+            due("read of a lesser one", Check.read(x, LESS), 0);
+            Look look = Look.at(x);
+            look.due(CHECK, "a lesser text", Look.at(fresh));
+            CHECK.due("no more than 512 calls", 100 * times + look.calls() + 20 <= 512, true);
+            due("no ROW more", x.holds(0, 2, 0), false);
+            due("no TERM more", x.term(0, 2, 0, 0), NO);
+            due("no TABLE more", x.table(6, 0), -1);
+        }
+    }
+
+    /** Many FAULTS deep within Qs, then a text without one. */
+    private static void readBehindFaults() {
+        String told = "table t(a);row t(1);row t(2);";
+        String[] faults = {told + "answer x=t+t*(t+t*(t+t*(t+t*(t-zz))));", told + "answer x=t+t*(t-t*(t+t*(t+t*t*t*t*t)));"};
+        String good = told + "answer x=t-t*(t-t*(t[a=2]-t[a=1]));answer y=(t*t)#(a)count n;";
+        for (int fault = 0; fault < faults.length; fault++) {
+            DimShelf x = new DimShelf();
+            for (int i = 0; i < 50; i++) {
+                due("read", Check.read(x, faults[fault]), fault == 0 ? 4 : 6);
+            }
+            due("read of a good text", Check.read(x, good), 0);
+            due("an answer", rows(x, 1, 0), "2");
+            due("a group", rows(x, 2, 0), "1,1 2,1");
+        }
+    }
+
+    /** The names of the COLUMNS with the numbers, in this order. */
+    private static String named(int[] order) {
+        StringBuilder text = new StringBuilder();
+        for (int column : order) {
+            text.append(text.isEmpty() ? "" : ",").append((char) ('a' + column));
+        }
+        return text.toString();
+    }
+
+    /** One row: each COLUMN has a value of its own, one of them may be ?u instead. */
+    private static String valued(int[] order, int unknown) {
+        StringBuilder text = new StringBuilder();
+        for (int column : order) {
+            text.append(text.isEmpty() ? "" : ",").append(column == unknown ? "?u" : Integer.toString(column + 11));
+        }
+        return text.toString();
+    }
+
+    /** Each three of six COLUMNS in each order beside three: those that both have must be alike, the others come behind. */
+    private static void joinsOfMany() {
+        int[] left = {0, 1, 2};
+        for (int n = 0; n < 216; n++) {
+            int[] right = {n / 36, n / 6 % 6, n % 6};
+            if (right[0] == right[1] || right[0] == right[2] || right[1] == right[2]) {
+                continue;
+            }
+            StringBuilder row = new StringBuilder(valued(left, -1));
+            for (int column : right) {
+                row.append(column < 3 ? "" : "," + (column + 11));
+            }
+            for (int unknown : right) {
+                DimShelf x = CHECK.shelf("unknown u:" + (unknown + 11) + ",7;table t(a,b,c);row t(" + valued(left, -1)
+                    + ");table s(" + named(right) + ");row s(" + valued(right, unknown) + ");answer x=t*s;");
+                due("the first WORLD of t * s(" + named(right) + ")", rows(x, 2, 0), row.toString());
+                due("in how many " + named(right), x.many(2, 0), unknown < 3 ? 1 : 2);
+                due("of the second " + named(right), x.size(2, 1), unknown < 3 ? 0 : 1);
+            }
+        }
+    }
+
+    /** Six COLUMNS of which one is not alike in one of two WORLDS. */
+    private static void differencesOfMany() {
+        int[] all = {0, 1, 2, 3, 4, 5};
+        int[] first = {0, 1, 2};
+        int[] last = {3, 4, 5};
+        for (int unknown : all) {
+            DimShelf x = CHECK.shelf("unknown u:" + (unknown + 11) + ",7;table t(a,b,c);table s(d,e,f);table p(a,b,c);"
+                + "table q(d,e,f);row t(" + valued(first, -1) + ");row s(" + valued(last, -1) + ");row p("
+                + valued(first, unknown) + ");row q(" + valued(last, unknown) + ");answer x=t*s-p*q;answer y=p*q-t*s;");
+            due("all are alike in the first WORLD", rows(x, 4, 0), "");
+            due("one is not in the second", rows(x, 4, 1), valued(all, -1));
+            due("the other way", rows(x, 5, 0) + "|" + rows(x, 5, 1), "|" + valued(all, unknown).replace("?u", "7"));
         }
     }
 }
