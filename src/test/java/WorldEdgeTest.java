@@ -37,6 +37,8 @@ public final class WorldEdgeTest {
         bytesThatWent();
         readAgain();
         readLess();
+        readFewerUnknowns();
+        readFewerRows();
         readBehindFaults();
         lastCalls();
         CHECK.finish("WorldEdgeTest");
@@ -751,6 +753,34 @@ public final class WorldEdgeTest {
             due("no TERM more", x.term(0, 2, 0, 0), NO);
             due("no TABLE more", x.table(6, 0), -1);
         }
+    }
+
+    /** A text behind two that have more UNKNOWNS, of more values. */
+    private static void readFewerUnknowns() {
+        DimShelf x = new DimShelf();
+        for (int i = 0; i < 2; i++) {
+            due("read of five", Check.read(x, "unknown u:1..2;unknown v:1..3;unknown w:1..4;unknown y:1..5;unknown z:1..6;"), 0);
+        }
+        due("WORLDS of five", x.count(1), 720);
+        due("read of two", Check.read(x, "unknown u:5..7;unknown v:8,3;"), 0);
+        due("WORLDS of two", x.count(1), 6);
+        for (int k = 0; k < 6; k++) {
+            due("the first UNKNOWN in " + k, x.value(k, 0), 5 + k / 2);
+            due("the second UNKNOWN in " + k, x.value(k, 1), k % 2 == 0 ? 8 : 3);
+            due("no third", x.value(k, 2), NO);
+        }
+    }
+
+    /** A difference of TABLES that have fewer ROWS than those of the two texts ahead. */
+    private static void readFewerRows() {
+        DimShelf x = new DimShelf();
+        for (int i = 0; i < 2; i++) {
+            due("read of two rows", Check.read(x, "table t(a);row t(1);row t(2);answer y=t-t;answer z=t-y-t;"), 0);
+        }
+        due("read of one", Check.read(x, "table t(a);row t(1);table s(a);row s(2);answer y=s-t;answer z=t-s;"), 0);
+        due("s - t", rows(x, 2, 0), "2");
+        due("t - s", rows(x, 3, 0), "1");
+        due("ROWS of t", terms(x, 0), "1/1");
     }
 
     /** Many FAULTS deep within Qs, then a text without one. */
